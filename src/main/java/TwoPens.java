@@ -434,7 +434,7 @@ public final class TwoPens {
     }
 
     public int image() {
-        kept.copy(desk);
+        kept.copyAll(desk);
         keptOne = true;
         return desk.wayCount();
     }
@@ -443,7 +443,7 @@ public final class TwoPens {
         if (!keptOne) {
             return STATE;
         }
-        desk.copy(kept);
+        desk.copyAll(kept);
         return desk.wayCount();
     }
 
@@ -868,7 +868,7 @@ public final class TwoPens {
         final Numbers bookPlaces = new Numbers(8);
         final Numbers bookWays = new Numbers(8);
 
-        void copy(Desk other) {
+        void copyAll(Desk other) {
             for (int i = 0; i < ways.length && i < other.ways.length; i++) {
                 ways[i] = other.ways[i];
             }

@@ -139,7 +139,7 @@ public final class ActsTest {
         Due.is("wanted", x.count(4), 1);
         Due.is("stock", x.stock(1, 1), 7);
         Due.is("book", x.count(5), 1);
-        Due.is("looked", x.looked(), 0);
+        Due.is("looked", x.looked(), -5);
         Due.is("tape", x.count(6), 2);
         Due.is("lines", x.told(0), 6);
         Due.is("line", x.line(2, 0), 0);
@@ -162,7 +162,7 @@ public final class ActsTest {
         x.looks(1);
         x.show(4);
         x.wanted(7);
-        x.book(2, 1);
+        x.book(2, 0);
         Due.feed(x, "wa");
         full(x, "ahead of the image");
         Due.is("image", x.image(), 2);

@@ -439,6 +439,16 @@ public final class SheetsTest {
                 Due.is("cost(" + way + ", " + n[i] + ", 1)", x.cost(way, n[i], 1), way == 3 ? n[i] * 4 : 0);
             }
         }
+        Due.is("nine are no ten", x.cost(0, 9, 0), 90);
+        Due.is("nineteen", x.cost(0, 19, 0), 208);
+        TwoPens nines = new TwoPens();
+        for (int kind = 0; kind < 6; kind++) {
+            nines.way(kind, 9, 60 - kind);
+        }
+        int[] eight = {480, 4 * 68, 8 * 29 + 9, 0, 2 * 74 + 65, 4 * 27 + 9 + 4};
+        for (int kind = 0; kind < 6; kind++) {
+            Due.is("eight lines by kind " + kind, nines.cost(kind, 8, 0), eight[kind]);
+        }
         TwoPens y = new TwoPens();
         y.way(6, 9, 30);
         y.row(0, 3, 5);

@@ -147,6 +147,7 @@ public final class TablesTest {
         mean(days(3, 9), 7, 7, 21, 1);
         mean(days(0, 40, 0, 40, 0, 40, 0, 40), 99, 99, 1980, 1);
         mean(days(1, 2, 3, 4), 3, 3, 3, 1);
+        mean(days(17), 3, 3, 0, 1);
         Due.is("no days", new TwoPens().mean(1, 1, 0), NO);
         Due.is("part 2", x.mean(1, 1, 2), NO);
         Due.is("part -1", x.mean(1, 1, -1), NO);

@@ -136,6 +136,11 @@ public final class WritingTest {
         rests(y, 0, 8, 3, 1, 9);
         rests(y, 0, 10, 0, 1, 0);
         rests(y, 0, 7, 1, 1, 4);
+        y.row(0, 1, 0);
+        y.row(0, 2, 9);
+        rests(y, 0, 4, 0, 4, 0);
+        rests(y, 0, 4, 2, 4, 6);
+        rests(y, 0, 4, 3, 1, 9);
         Due.is("no way", x.rests(6, 0, 0, 0), NONE);
         Due.is("way -1", x.rests(-1, 1, 0, 0), NONE);
         Due.is("what 2", x.rests(0, 0, 0, 2), NONE);
