@@ -12,6 +12,9 @@ public final class RefusalsTest {
         noneAheadOfFull();
         badAheadOfState();
         badAheadOfFull();
+        oneThingFull();
+        noImage();
+        noneOfTheKind();
         aheadOfNothing();
         noSuchNumber();
         farOff();
@@ -85,6 +88,59 @@ public final class RefusalsTest {
         Watch.unchanged("wanted(41) when full", Watch::full, x -> x.wanted(41), BAD);
         Watch.unchanged("book(40, 0) when full", Watch::full, x -> x.book(40, 0), BAD);
         Watch.unchanged("book(-2, -1) when full", Watch::full, x -> x.book(-2, -1), BAD);
+    }
+
+    /** What else is there has room then, so that a refused call could change it. */
+    private static void oneThingFull() {
+        Due.sentence("FULL. They change nothing.");
+        Watch.unchanged("feed", Watch.someBut(98, x -> x.feed('w')), x -> x.feed('w'), FULL);
+        Watch.unchanged("way", Watch.someBut(2, x -> x.way(2, 2, 2)), x -> x.way(2, 2, 2), FULL);
+        Watch.unchanged("write", Watch.someBut(30, x -> x.write(1, 1)), x -> x.write(1, 1), FULL);
+        Watch.unchanged("write to 41", Watch::some, x -> x.write(2, 31), FULL);
+        Watch.unchanged("write -1", Watch.someBut(1, x -> x.write(-1, 30)), x -> x.write(-1, 1), FULL);
+        Watch.unchanged("looks", Watch.someBut(3, x -> x.looks(30 + x.count(2))), x -> x.looks(39), FULL);
+        Watch.unchanged("show", Watch.someBut(3, x -> x.show(0)), x -> x.show(1), FULL);
+        Watch.unchanged("wanted", Watch.someBut(5, x -> x.wanted(0)), x -> x.wanted(1), FULL);
+        Watch.unchanged("book", Watch.someBut(5, x -> x.book(0, 0)), x -> x.book(1, 1), FULL);
+        Watch.Maker schools = Watch.someBut(1, x -> {
+            x.school();
+            for (int i = 0; i < 4; i++) Due.school(x, "look 4");
+            return x.feed('w');
+        });
+        Watch.unchanged("school", schools, TwoPens::school, FULL);
+        Watch.unchanged("feed behind five schools", schools, x -> x.feed(128), BAD);
+    }
+
+    private static void noImage() {
+        Due.sentence("STATE as told; FULL. They change nothing.");
+        Watch.unchanged("undo", Watch::withoutImage, TwoPens::undo, STATE);
+        Watch.unchanged("undo of a new object", Watch::fresh, TwoPens::undo, STATE);
+        Watch.unchanged("row of a TWIN", Watch::withoutImage, x -> x.row(1, 0, 5), STATE);
+    }
+
+    /** An answer for none is no refusal, but an asking call, and changes nothing, too. */
+    private static void noneOfTheKind() {
+        Due.sentence("All that follows is asked, as things are now, and changes nothing.");
+        for (int what = 0; what < 2; what++) {
+            int it = what;
+            Watch.unchanged("quick, all too dear", Watch::dear, x -> x.quick(40, 39, it), -5);
+            Watch.unchanged("change, all too dear", Watch::dear, x -> x.change(40, 39, it + 2), -5);
+            Watch.unchanged("longest of missing ones", Watch.someBut(1, x -> {
+                x.tear();
+                x.write(-1, 5);
+                return x.show(2);
+            }), x -> x.longest(it), -5);
+            Watch.unchanged("mean without days", Watch.someBut(1, x -> x.wanted(-1)), x -> x.mean(1, 1, it), NO);
+        }
+        Watch.unchanged("stock without days", Watch.someBut(1, x -> x.wanted(-1)), x -> x.stock(1, 1), -5);
+        Watch.unchanged("looked, all so", Watch.someBut(1, x -> {
+            x.book(-1, 0);
+            x.book(2, 0);
+            return x.book(5, -1);
+        }), TwoPens::looked, -5);
+        Watch.unchanged("looked without rows", Watch.someBut(1, x -> x.book(-1, 0)), TwoPens::looked, -5);
+        Watch.unchanged("mend, none better", Watch.someBut(1, x -> x.looks(39)), x -> x.mend(2), -5);
+        Watch.unchanged("as another kind", Watch::some, x -> x.as(2, 6), -6);
     }
 
     /** A refusal tells a wrong question: it comes ahead of a right one's -5. */

@@ -19,10 +19,24 @@ final class Watch {
 
     /** Some of everything, full of nothing; the image is of fewer things. 10 lines, 4 ways. */
     static TwoPens some() {
+        return some(true, 6, 1, 3, 5);
+    }
+
+    /** As some(), but that no image was taken. */
+    static TwoPens withoutImage() {
+        return some(false, 6, 1, 3, 5);
+    }
+
+    /** As some(), but that every way costs pence. */
+    static TwoPens dear() {
+        return some(true, 6, 3, 3, 6);
+    }
+
+    private static TwoPens some(boolean image, int... kinds) {
         TwoPens x = new TwoPens();
-        x.way(6, 4, 5);
-        x.way(1, 3, 12);
-        x.way(3, 2, 7);
+        x.way(kinds[0], 4, 5);
+        x.way(kinds[1], 3, 12);
+        x.way(kinds[2], 2, 7);
         x.row(0, 1, 7);
         x.row(0, 3, 2);
         x.write(0, 3);
@@ -31,10 +45,10 @@ final class Watch {
         x.looks(4);
         x.show(2);
         Due.feed(x, "count 9");
-        x.image();
+        if (image) x.image();
         Due.school(x, ";look 2;count 0;sees 30 w=1;sees 9 p=1");
         x.row(0, 0, 1);
-        x.way(5, 1, 21);
+        x.way(kinds[3], 1, 21);
         x.write(1, 2);
         x.write(-1, 1);
         x.write(2, 4);
@@ -48,6 +62,15 @@ final class Watch {
         x.act(3, 2, 5);
         Due.feed(x, "wa");
         return x;
+    }
+
+    /** As some(), but that this call was made then, so many times. */
+    static Maker someBut(int times, Call call) {
+        return () -> {
+            TwoPens x = some();
+            for (int i = 0; i < times; i++) call.on(x);
+            return x;
+        };
     }
 
     /** As much of everything as there may be: 40 lines, 6 ways, 5 schools, 100 signs. */
