@@ -409,6 +409,11 @@ public final class TableBoundsTest {
         Due.is("the last line", x.looked(), NOTHING);
         x.book(10, -1);
         Due.is("one beyond", x.looked(), NOTHING);
+        TwoPens y = one(0, 0, 1);
+        y.image();
+        y.way(0, 0, 1);
+        Due.is("no rows", y.looked(), NOTHING);
+        Due.is("the image stays", y.undo(), 1);
     }
 
     private static void asksChangeNothing() {

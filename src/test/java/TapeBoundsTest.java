@@ -178,6 +178,26 @@ public final class TapeBoundsTest {
         fault("sees 1 !|w=0", 8);
         fault("sees 1 !1", 8);
         fault("sees 1 0", 7);
+        truth();
+    }
+
+    /** At place 0 a test m=0 holds and m=1 does not: 1 and 0 in these texts. */
+    private static void truth() {
+        String[] hold = {"1", "1|1", "1|0", "0|1", "1&1", "!0", "!!1", "1|0&0", "0&0|1", "0&1|1&1", "!0&1",
+            "!(0&1)", "!(0|0)", "(1|1)&1", "!0|1", "0|0|1", "1&1&1", "!(1&0)&!0"};
+        String[] fail = {"0", "0|0", "1&0", "0&1", "0&0", "!1", "!!0", "(1|0)&0", "0&(0|1)", "!1&1", "!1|0",
+            "!(1|0)", "!(1&1)", "0|0|0", "1&1&0", "0&1&1", "!0&!1", "0&1|1&0"};
+        for (String text : hold) holds(text, 7);
+        for (String text : fail) holds(text, 0);
+    }
+
+    private static void holds(String text, int due) {
+        TwoPens x = new TwoPens();
+        x.way(0, 0, 1);
+        x.write(0, 1);
+        String tests = text.replace("1", "m=a").replace("0", "m=1").replace("a", "0");
+        Due.is("'" + tests + "'", Due.school(x, "sees 7 " + tests), 0);
+        Due.is("sign by '" + tests + "'", x.line(0, 1), due);
     }
 
     private static void tests() {
