@@ -12,6 +12,7 @@ public final class TwoPens {
     private static final int MISSING = -1;
     private static final int NOWHERE = -1;
     private static final int NO_WAY = -1;
+    private static final int NEVER = 0x7fffffff;
 
     private static final int MOST_WAYS = 6;
     private static final int MOST_LINES = 40;
@@ -225,11 +226,11 @@ public final class TwoPens {
         if (!isLength(n) || !isPence(pence)) {
             return BAD;
         }
-        int best = Integer.MAX_VALUE;
+        int best = NEVER;
         for (int k = 0; k <= n; k++) {
             best = Math.min(best, bestChangeAt(k, n, pence));
         }
-        if (best == Integer.MAX_VALUE) {
+        if (best == NEVER) {
             return NOTHING;
         }
         switch (what) {
@@ -532,7 +533,7 @@ public final class TwoPens {
     private int bestChangeAt(int k, int n, int pence) {
         int firsts = k == 0 ? 1 : desk.wayCount();
         int seconds = k == n ? 1 : desk.wayCount();
-        int best = Integer.MAX_VALUE;
+        int best = NEVER;
         for (int first = 0; first < firsts; first++) {
             int paid = desk.penceOf(first, k);
             int spent = desk.secondsOf(first, k);

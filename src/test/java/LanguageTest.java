@@ -1,4 +1,6 @@
+import java.io.DataInputStream;
 import java.io.IOException;
+import java.io.InputStream;
 import java.lang.reflect.Field;
 import java.lang.reflect.Method;
 import java.lang.reflect.Modifier;
@@ -21,10 +23,19 @@ public final class LanguageTest {
         "\\bdouble\\b", "\\bfloat\\b", "\\bwhile\\s*\\(true\\)", "for\\s*\\(\\s*;\\s*;",
     };
 
+    /** Rule 4, as far as a class that keeps to its own rows may need it: what is called, by class. */
+    private static final Set<String> LIBRARY = Set.of("java/lang/Object.<init>", "java/lang/String.length",
+        "java/lang/String.charAt", "java/lang/String.isEmpty", "java/lang/String.equals",
+        "java/lang/String.indexOf", "java/lang/String.substring", "java/lang/String.toCharArray",
+        "java/lang/Math.abs", "java/lang/Math.min", "java/lang/Math.max", "java/lang/Math.floorMod",
+        "java/lang/Math.floorDiv", "java/lang/System.arraycopy", "java/util/Arrays.copyOf",
+        "java/util/Arrays.copyOfRange", "java/util/Arrays.fill", "[I.clone");
+
     public static void main(String[] args) throws IOException {
         Due.promise("LANGUAGE.md");
         String code = bare(Files.readString(SOURCE));
         words(code);
+        library(code);
         face();
         sizes(code);
         Due.end("LanguageTest");
@@ -39,6 +50,63 @@ public final class LanguageTest {
         for (String word : NEVER) {
             Due.is("found " + word, Pattern.compile(word).matcher(code).find() ? 1 : 0, 0);
         }
+    }
+
+    /** Constants of the library are gone from the compiled classes: those are looked for in the text. */
+    private static void library(String code) throws IOException {
+        Matcher constant = Pattern.compile("\\b(Integer|Long|Math)\\.[A-Z_]+\\b").matcher(code);
+        while (constant.find()) {
+            Due.is("may be used: " + constant.group(), constant.group().equals("Long.MIN_VALUE") ? 1 : 0, 1);
+        }
+        int called = 0;
+        for (Class<?> c : classes()) {
+            for (String member : membersAskedFor(c)) {
+                if (member.startsWith("TwoPens")) continue;
+                called++;
+                Due.is(c + " may use " + member, LIBRARY.contains(member) ? 1 : 0, 1);
+            }
+        }
+        Due.is("members of the library found", called > classes().size() ? 1 : 0, 1);
+    }
+
+    /** Methods and fields in the pool of constants of a compiled class, as Class.name. */
+    private static List<String> membersAskedFor(Class<?> c) throws IOException {
+        try (InputStream bytes = c.getResourceAsStream(c.getName() + ".class");
+                DataInputStream in = new DataInputStream(bytes)) {
+            in.skipBytes(8);
+            int size = in.readUnsignedShort();
+            String[] texts = new String[size];
+            int[][] links = new int[size][];
+            for (int i = 1; i < size; i++) {
+                int tag = in.readUnsignedByte();
+                if (tag == 1) texts[i] = in.readUTF();
+                else links[i] = link(in, tag);
+                if (tag == 5 || tag == 6) i++;
+            }
+            return membersIn(texts, links);
+        }
+    }
+
+    /** The tag and the one or two places that it leads to. */
+    private static int[] link(DataInputStream in, int tag) throws IOException {
+        switch (tag) {
+            case 5: case 6: in.skipBytes(8); return new int[] {tag};
+            case 3: case 4: in.skipBytes(4); return new int[] {tag};
+            case 7: case 8: case 16: case 19: case 20: return new int[] {tag, in.readUnsignedShort()};
+            case 15: in.skipBytes(3); return new int[] {tag};
+            default: return new int[] {tag, in.readUnsignedShort(), in.readUnsignedShort()};
+        }
+    }
+
+    private static List<String> membersIn(String[] texts, int[][] links) {
+        List<String> members = new ArrayList<>();
+        for (int[] link : links) {
+            if (link == null) continue;
+            if (link[0] == 17 || link[0] == 18) members.add("a call that is bound as it runs");
+            if (link[0] < 9 || link[0] > 11) continue;
+            members.add(texts[links[link[1]][1]] + "." + texts[links[link[2]][1]]);
+        }
+        return members;
     }
 
     private static List<Class<?>> classes() {

@@ -8,22 +8,23 @@ import java.util.regex.Matcher;
 import java.util.regex.Pattern;
 
 /**
- * Every mark of a bound in the document (a span, a most, a refusal, an answer for none) stands in a
- * sentence that some test quotes by Due.sentence, and every promise has one.
+ * Every word of 'Terms' and of the promises, and the sentence of the 512 calls, stands in a quote of
+ * some test (Due.sentence). What is left out is no sentence of its own: fences, and what FaceTest
+ * reads from the document itself (the heads of the promises, what the interface says).
  */
 public final class SentencesTest {
     private static final Pattern QUOTE = Pattern.compile("Due\\.sentence\\(\"((?:[^\"\\\\]|\\\\.)*)\"\\)");
-    private static final Pattern MARK = Pattern.compile("-?\\d+ \\.\\. |at most|\\bNONE\\b|\\bBAD\\b"
-        + "|\\bSTATE\\b|\\bFULL\\b|\\bNO:|-5\\b|-6\\b|-10\\b|\\(-1|if less|if more|too early|\\bnone\\b"
-        + "|\\(cut\\)|wrapping|of several|is empty|without|beyond|fewer than|no more than|less 1"
-        + "|are kept|at first|as told|above 0|no two alike|512|no such|place 0|none then|is left");
+    private static final Pattern NO_SENTENCE = Pattern.compile("==== \\d|```text|```"
+        + "|Ahead of the calls .*? the interface says: ---- .*?\\. (?=Ahead|##)"
+        + "|## Promise \\d+: (A new object|\\w+)( `[^`]*\\)`:)?");
+    private static final Pattern WORD = Pattern.compile("[^ .,:;()]+");
 
     public static void main(String[] args) throws IOException {
         Due.promise("sentences");
         String text = bare(Files.readString(Path.of("../shared/DOC.md")));
         boolean[] quoted = quoted(text);
-        marks(text, quoted, text.indexOf("An object is used"), text.indexOf("## The public face"));
-        marks(text, quoted, text.indexOf("## Terms"), text.indexOf("## Not promised"));
+        words(text, quoted, text.indexOf("An object is used"), text.indexOf("## The public face"), 20);
+        words(text, quoted, text.indexOf("==== 1"), text.indexOf("## Not promised"), 1500);
         promises(text, quoted);
         Due.end("SentencesTest");
     }
@@ -53,15 +54,20 @@ public final class SentencesTest {
         return quoted;
     }
 
-    private static void marks(String text, boolean[] quoted, int from, int to) {
-        Matcher mark = MARK.matcher(text).region(from, to);
-        int marks = 0;
-        while (mark.find()) {
-            marks++;
-            String around = text.substring(Math.max(from, mark.start() - 60), Math.min(to, mark.end() + 60));
-            Due.is("a test for '" + mark.group() + "' in '.." + around + "..'", quoted[mark.start()] ? 1 : 0, 1);
+    private static void words(String text, boolean[] quoted, int from, int to, int least) {
+        boolean[] left = quoted.clone();
+        Matcher none = NO_SENTENCE.matcher(text).region(from, to);
+        while (none.find()) {
+            for (int i = none.start(); i < none.end(); i++) left[i] = true;
         }
-        Due.is("marks found", marks > 0 ? 1 : 0, 1);
+        Matcher word = WORD.matcher(text).region(from, to);
+        int words = 0;
+        while (word.find()) {
+            words++;
+            String around = text.substring(Math.max(from, word.start() - 30), Math.min(to, word.end() + 30));
+            Due.is("a test for '" + word.group() + "' in '.." + around + "..'", left[word.start()] ? 1 : 0, 1);
+        }
+        Due.is("words found", words >= least ? 1 : 0, 1);
     }
 
     private static void promises(String text, boolean[] quoted) {
